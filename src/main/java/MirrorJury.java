@@ -594,7 +594,6 @@ public final class MirrorJury {
     private void reject(int reason, int detail) {
         rejectedFor = reason;
         rejectedWith = detail;
-        rejectedCause = ACCEPTED;
     }
 
     private void holdVote() {
