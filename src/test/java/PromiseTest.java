@@ -80,6 +80,7 @@ public final class PromiseTest {
     }
 
     public static void main(String[] args) {
+        examplesOfReadme();
         constants();
         newObject();
         addCat();
@@ -118,6 +119,20 @@ public final class PromiseTest {
         if (wrong != 0) {
             System.exit(1);
         }
+    }
+
+    /** The calls and answers that README.md shows. */
+    private static void examplesOfReadme() {
+        begin(0);
+        due(1, () -> x.setMirror(10, '/'));
+        due(0, () -> x.addCat(7, 'c', 'a', 'b'));
+        due(5, () -> x.rayLength(3));
+        due(0, () -> x.testify(3, 'a'));
+        due('a', () -> x.deliberate());
+        due(10, () -> x.writeCat(0));
+        due("0@7:acbd+1", () -> output(10));
+        due(4, () -> run("cat 5 abc;say 5 d;method r;vote"));
+        due('a', () -> x.verdictAt(0));
     }
 
     private static void constants() {
